@@ -1,0 +1,3 @@
+public final class FaceTest {
+    public static void main(String[] args) { new Leastreader(); }
+}
