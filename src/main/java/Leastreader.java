@@ -450,8 +450,8 @@ public final class Leastreader {
     }
 
     private boolean meetPairs(Machine first, Machine second, int most, boolean isWhole) {
-        return maker.makeBy(ONE_WAY, first, left)
-                && maker.makeBy(ONE_WAY, second, right)
+        return maker.makeOneWay(first, left)
+                && maker.makeOneWay(second, right)
                 && meeting.meet(left, right, most, isWhole);
     }
 
@@ -889,7 +889,7 @@ public final class Leastreader {
             return makeOneWay(round, into);
         }
 
-        private boolean makeOneWay(Machine from, Plain into) {
+        boolean makeOneWay(Machine from, Plain into) {
             sets.put(0, from.starts);
             into.states = 1;
             into.goals = 0;
