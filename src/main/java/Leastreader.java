@@ -43,7 +43,7 @@ public final class Leastreader {
     private int knocks;
 
     public Leastreader() {
-        for (int machine = 0; machine < MACHINES; machine++) {
+        for (int machine = 0; machine < machines.length; machine++) {
             machines[machine] = new Machine(MOST_STATES);
         }
     }
@@ -341,7 +341,7 @@ public final class Leastreader {
     }
 
     public boolean isSound() {
-        Machine machine = machines[0];
+        Machine machine = machineAt(0);
         if (!maker.makeBy(BY_PARTING, machine, made)) {
             return true;
         }
@@ -360,7 +360,7 @@ public final class Leastreader {
 
     public long digest() {
         long sum = 8025;
-        for (int machine = 0; machine < MACHINES; machine++) {
+        for (int machine = 0; machine < machines.length; machine++) {
             sum = addMachine(sum, machines[machine]);
         }
         sum = sum * 31 + acts;

@@ -204,7 +204,11 @@ public final class PromiseTest {
                 copy 0 1 = 1
                 mark 1 4 false true = 1
                 copy 0 1 = 1
+                lead 1 0 0 1 = 1
+                copy 0 1 = 1
                 arrow 1 4 2 4 true = 1
+                copy 0 1 = 1
+                lead 1 0 0 1 = 1
                 copy 0 1 = 1
                 arrow 1 4 2 4 true = 1
                 tell 0 1 = 28
@@ -616,8 +620,8 @@ public final class PromiseTest {
                 # 32 sets, and 33, of which way 2 sees nothing
                 sow 0 50 6 2 = 28
                 size 0 3 = 32
-                size 0 0 = 16
                 size 0 1 = 16
+                size 0 0 = 16
                 size 0 2 = 16
                 sow 0 102 6 2 = 29
                 size 0 3 = ISE
@@ -655,9 +659,9 @@ public final class PromiseTest {
                 text 0 3 = 1,1,1* 1,1,1
                 text 0 2 = 1,1,1* 1,1,1
                 sow 0 99 6 2 = 34
-                text 0 0 = 1,2,3* 1,1,1* 2,2,2 1,4,1* 5,1,1 6,1,1* 0,1,6*
                 text 0 1 = 1,2,3* 1,1,1* 2,2,2 1,4,1* 5,1,1 6,1,1* 0,1,6*
                 text 0 2 = 1,2,3* 1,1,1* 2,2,2 1,4,1* 5,1,1 6,1,1* 0,1,6*
+                text 0 0 = 1,2,3* 1,1,1* 2,2,2 1,4,1* 5,1,1 6,1,1* 0,1,6*
                 sow 0 102 6 2 = 29
                 text 0 0 = ISE
                 text 0 1 = ISE
