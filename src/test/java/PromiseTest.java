@@ -1,9 +1,5 @@
 /** For each promise of the document a run: ordinary inputs, the edges, wrong inputs. */
 public final class PromiseTest {
-    private static final String IOOBE = "throws.IndexOutOfBoundsException";
-    private static final String IAE = "throws.IllegalArgumentException";
-    private static final String ISE = "throws.IllegalStateException";
-
     private static final Script script = new Script();
 
     public static void main(String[] args) {
@@ -28,9 +24,8 @@ public final class PromiseTest {
         }
     }
 
-    /** Short words for the exceptions: their names would hide the calls. */
     private static void play(String name, String lines) {
-        script.play(name, lines.replace("IOOBE", IOOBE).replace("IAE", IAE).replace("ISE", ISE));
+        script.play(name, lines);
     }
 
     private static void makeAndMark() {
