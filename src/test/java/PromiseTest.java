@@ -920,16 +920,6 @@ public final class PromiseTest {
                 """);
     }
 
-    /** From now on no STATE is a GOAL, or each but one. */
-    private static String markAll(int machine, int states, boolean is, int other) {
-        StringBuilder lines = new StringBuilder();
-        for (int state = 0; state < states; state++) {
-            lines.append("mark ").append(machine).append(' ').append(state).append(" true ")
-                    .append(is != (state == other)).append(" = any\n");
-        }
-        return lines.toString();
-    }
-
     private static void askOfPairs() {
         play("26 pairs", """
                 pairs 0 1 = 2
@@ -959,31 +949,45 @@ public final class PromiseTest {
                 pairs 4 2 = IOOBE
                 """);
         // as many PAIRS as there may be, and one more, none of them UNLIKE
-        play("26 200 PAIRS", "sow 0 106 6 4 = any\nsow 1 1028 6 2 = any\n" + markAll(0, 6, false, -1)
-                + markAll(1, 6, false, -1) + """
+        play("26 200 PAIRS", """
+                sow 0 106 6 4 = any
+                sow 1 1028 6 2 = any
+                mark 0 {0-5} true false = any
+                mark 1 {0-5} true false = any
                 pairs 0 1 = 200
                 pairs 1 0 = 200
                 isAlike 0 1 0 = true
                 apart 0 1 =
                 together 0 1 0 -1 = ISE
                 """);
-        play("26 more than 200 PAIRS", "sow 0 17 7 3 = any\nsow 1 1038 7 4 = any\n" + markAll(0, 7, false, -1)
-                + markAll(1, 7, false, -1) + """
+        play("26 more than 200 PAIRS", """
+                sow 0 17 7 3 = any
+                sow 1 1038 7 4 = any
+                mark 0 {0-6} true false = any
+                mark 1 {0-6} true false = any
                 pairs 0 1 = ISE
                 apart 0 1 = ISE
                 isAlike 0 1 0 = ISE
                 isAlike 0 1 1 = true
                 pairs 0 0 = 26
                 """);
-        play("26 the pair 200 is the first that is UNLIKE", "sow 0 103 5 5 = any\nsow 1 196 7 3 = any\n"
-                + markAll(0, 5, true, -1) + markAll(1, 7, true, 5) + """
+        play("26 the pair 200 is the first that is UNLIKE", """
+                sow 0 103 5 5 = any
+                sow 1 196 7 3 = any
+                mark 0 {0-4} true true = any
+                mark 1 {0-4} true true = any
+                mark 1 5 true false = any
+                mark 1 6 true true = any
                 pairs 0 1 = 200
                 pairs 1 0 = 200
                 apart 0 1 = bcabca.
                 isAlike 0 1 0 = false
                 """);
-        play("26 the pair 201 is the first that is UNLIKE", "sow 0 6946 5 2 = any\nsow 1 4233 6 4 = any\n"
-                + markAll(0, 5, true, -1) + markAll(1, 6, true, -1) + """
+        play("26 the pair 201 is the first that is UNLIKE", """
+                sow 0 6946 5 2 = any
+                sow 1 4233 6 4 = any
+                mark 0 {0-4} true true = any
+                mark 1 {0-5} true true = any
                 pairs 0 1 = ISE
                 pairs 1 0 = ISE
                 apart 0 1 = ISE

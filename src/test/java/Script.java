@@ -116,10 +116,10 @@ public final class Script {
     /** What is told behind each call, and at the end all that can be told. */
     private List<String> playAndLook(String name, Object asked, List<String> run) {
         List<String> looks = new ArrayList<>();
-        long before = digest(asked);
+        long before = number(asked, "digest");
         for (String line : run) {
             String got = playLine(name, asked, line);
-            long after = digest(asked);
+            long after = number(asked, "digest");
             checkChange(name + ": " + line, line.split(" ")[0], got, after - before);
             looks.add(got + ", digest " + after);
             before = after;
@@ -128,8 +128,10 @@ public final class Script {
         return looks;
     }
 
-    private static long digest(Object asked) {
-        return Long.parseLong(call(asked, "digest"));
+    /** What is no number counts as 0: it differs from what is due, but the other runs go on. */
+    private static long number(Object asked, String words) {
+        String got = call(asked, words);
+        return got.matches("-?\\d+") ? Long.parseLong(got) : 0;
     }
 
     private void checkChange(String what, String method, String got, long change) {
@@ -152,7 +154,7 @@ public final class Script {
             for (int what = 0; what < 5; what++) {
                 told.add(call(asked, "tell " + machine + " " + what));
             }
-            int cells = Integer.parseInt(call(asked, "tell " + machine + " 0")) * 3;
+            long cells = number(asked, "tell " + machine + " 0") * 3;
             for (int cell = 0; cell < cells; cell++) {
                 told.add(call(asked, "arrows " + machine + " " + cell / 3 + " " + cell % 3));
             }
