@@ -546,7 +546,7 @@ public final class Leastreader {
         int goals;
 
         Table(int room) {
-            cells = new int[room < 0 ? 0 : room * SIGNS];
+            cells = new int[room < 0 || room > MOST_SETS ? 0 : room * SIGNS];
         }
 
         /** Looks at the place before it is used, as a Row does. */
